@@ -1,0 +1,153 @@
+import java.util.Random;
+
+/** Promises 3, 4 and 6 to 9 on patterns by chance (always the same ones), against the standard's own words in Spec. */
+public final class SpecTest {
+    private static final int RUNS = 60000;
+    private static final String SIGNS = "()[]{}*+?|^$.\\ab-,12dwxuc=!:0(()\\[-]{,}";
+    private static final String[] PIECES = {"(", "(?:", "(?=", "(?!", ")", "[", "]", "[^", "\\d", "\\W", "\\1", "\\2",
+        "{2}", "{1,2}", "{0,}", "{2,1}", "*", "+", "?", "*?", "a", "b", "|", ".", "^", "$", "\\b", "a-b", "\\x61", "\\cA",
+        "\\0", "\\u0062", "\u00E0", "\u00DF", "\\", "-", "0"};
+    private static final String[] TEXT = {"a", "a", "a", "b", "b", "c", "A", "B", "1", " ", "\n", "\r", "\0", "_", "\u00E0",
+        "\u00C0", "\u00FF", "\u0178", "\u2028"};
+    private static final String[] ATOMS = {"a", "a", "b", "b", "c", "A", ".", "\\d", "\\w", "\\W", "\\s", "\\S", "\\D", "[ab]",
+        "[^a]", "[a-c]", "[B-a]", "[\\W1]", "[^\\s]", "[]", "[^]", "\\1", "\\2", "\\3", "\u00E0", "[\u00C0-\u00FF]", "\\0", "[\\d-]"};
+
+    private final Random random = new Random(15102);
+    private int rightOnes = 0;
+    private int matched = 0;
+    private int spent = 0;
+
+    public static void main(String[] args) throws InterruptedException {
+        // The closures of Spec stand as deep as a match has steps.
+        Thread thread = new Thread(null, () -> new SpecTest().run(), "spec", 1L << 30);
+        thread.start();
+        thread.join();
+        Check.end();
+    }
+
+    private void run() {
+        PatternDesk desk = new PatternDesk();
+        for (int i = 0; i < RUNS; i++) {
+            if (i % 20 == 0) {
+                desk = new PatternDesk();
+            }
+            compare(desk, chancePattern(i % 4), chanceText());
+        }
+        System.out.println(rightOnes + " right patterns, " + matched + " matches, " + spent + " spent");
+        Check.due("there were enough right patterns", rightOnes > RUNS / 4 ? 1 : 0, 1);
+        Check.due("there were enough matches", matched > RUNS / 10 ? 1 : 0, 1);
+        Check.due("there were enough spent ones", spent > RUNS / 100 ? 1 : 0, 1);
+    }
+
+    private void compare(PatternDesk desk, String pattern, String text) {
+        boolean ignoring = random.nextBoolean();
+        boolean lines = random.nextBoolean();
+        String what = Check.shown(pattern) + (ignoring ? "i" : "") + (lines ? "m" : "") + " on " + Check.shown(text);
+        Spec spec = null;
+        int place = -1;
+        try {
+            spec = new Spec(pattern, ignoring, lines);
+        } catch (Spec.Wrong wrong) {
+            place = wrong.place;
+        }
+        Check.tell(desk, pattern);
+        int groups = -1;
+        try {
+            groups = desk.pattern(ignoring, lines);
+        } catch (IllegalArgumentException e) {
+            groups = -1;
+        }
+        Check.due("place of " + what, desk.place(), place);
+        Check.due("groups of " + what, groups, spec == null ? -1 : spec.groups);
+        Check.tell(desk, text);
+        Check.due("length", desk.text(), text.length());
+        if (spec != null && groups >= 0) {
+            rightOnes++;
+            compareMatch(desk, spec, text, what);
+        }
+    }
+
+    private void compareMatch(PatternDesk desk, Spec spec, String text, String what) {
+        int from = random.nextInt(text.length() + 1);
+        boolean finding = random.nextBoolean();
+        int[] fuels = {1 + random.nextInt(10), 1 + random.nextInt(60), 1000};
+        int fuel = fuels[random.nextInt(3)];
+        String due;
+        try {
+            int[][] captures = spec.find(text, from, finding ? text.length() : from, fuel);
+            due = captures == null ? "0" : shown(captures);
+            matched += captures == null ? 0 : 1;
+        } catch (Spec.Spent e) {
+            due = "2";
+            spent++;
+        }
+        String call = what + (finding ? " found from " : " matched at ") + from + " with " + fuel;
+        Check.same(call, Check.result(desk, finding ? desk.find(from, fuel) : desk.match(from, fuel)), due);
+        Check.due("steps of " + call, desk.steps(), spec.steps);
+    }
+
+    private static String shown(int[][] captures) {
+        StringBuilder all = new StringBuilder("1");
+        for (int[] capture : captures) {
+            all.append(' ').append(capture == null ? "-" : capture[0] + "," + capture[1]);
+        }
+        return all.toString();
+    }
+
+    private String chanceText() {
+        StringBuilder all = new StringBuilder();
+        for (int left = random.nextInt(12); left > 0; left--) {
+            all.append(TEXT[random.nextInt(TEXT.length)]);
+        }
+        return all.toString();
+    }
+
+    private String chancePattern(int way) {
+        StringBuilder all = new StringBuilder();
+        if (way == 0) {
+            for (int left = random.nextInt(10); left > 0; left--) {
+                all.append(SIGNS.charAt(random.nextInt(SIGNS.length())));
+            }
+        } else if (way == 1) {
+            for (int left = random.nextInt(10); left > 0; left--) {
+                all.append(PIECES[random.nextInt(PIECES.length)]);
+            }
+        } else {
+            disjunction(all, 3);
+            if (way == 2 && all.length() > 0 && random.nextInt(3) == 0) {
+                all.deleteCharAt(random.nextInt(all.length()));
+            }
+        }
+        return all.length() > 200 ? "" : all.toString();
+    }
+
+    private void disjunction(StringBuilder all, int depth) {
+        do {
+            for (int left = random.nextInt(4); left > 0; left--) {
+                term(all, depth);
+            }
+        } while (random.nextInt(3) == 0 && all.append('|') != null);
+    }
+
+    private void term(StringBuilder all, int depth) {
+        int kind = random.nextInt(12);
+        if (kind == 0) {
+            all.append(new String[] {"^", "$", "\\b", "\\B"}[random.nextInt(4)]);
+            return;
+        }
+        if (kind <= 4 && depth > 0) {
+            all.append(new String[] {"(?=", "(?!", "(?:", "("}[kind - 1]);
+            disjunction(all, depth - 1);
+            all.append(')');
+            if (kind <= 2) {
+                return;
+            }
+        } else {
+            all.append(ATOMS[random.nextInt(ATOMS.length)]);
+        }
+        if (random.nextInt(2) == 0) {
+            all.append(new String[] {"*", "+", "?", "{2}", "{0,2}", "{1,}", "{0}", "{1,3}"}[random.nextInt(8)]);
+            all.append(random.nextInt(3) == 0 ? "?" : "");
+        }
+    }
+}
