@@ -11,7 +11,24 @@ public final class FindTest {
         Check.finds("(?:(x)y)?b", "", "xxb", 0, "1 2,3 -");
         fuelForAll();
         wrongOnes();
+        manyFinds();
         Check.end();
+    }
+
+    /** Nothing may pile up from one place or one call to the next. */
+    private static void manyFinds() {
+        PatternDesk desk = Check.desk("(a)(a)(a)b", "", Check.repeat("a", 600));
+        for (int i = 0; i < 60; i++) {
+            Check.due("find", desk.find(0, 10000), 0);
+            // Eight steps at each place; fewer where the text ends.
+            Check.due("steps", desk.steps(), 598 * 8 + 7 + 5 + 3);
+        }
+        Check.tell(desk, "(?:(a)|aa)c");
+        desk.pattern(false, false);
+        Check.tell(desk, "aac");
+        desk.text();
+        Check.due("match", desk.match(0, 99), 1);
+        Check.due("a group that was gone back from", desk.group(1, false), -1);
     }
 
     private static void fuelForAll() {

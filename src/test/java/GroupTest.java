@@ -45,5 +45,10 @@ public final class GroupTest {
             Check.due("end of " + k, desk.group(k, true), 3 + k);
         }
         Check.argument("group 21", () -> desk.group(21, false));
+        PatternDesk other = Check.desk(Check.repeat("()", 19) + "(?:(b)|c)", "", "bc");
+        Check.due("match", other.match(0, 99), 1);
+        Check.due("end of 20", other.group(20, true), 1);
+        Check.due("match", other.match(1, 99), 1);
+        Check.due("nothing of an earlier match is left", other.group(20, true), -1);
     }
 }

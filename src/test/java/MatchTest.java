@@ -11,7 +11,7 @@ public final class MatchTest {
         ignoringCase();
         sets();
         wrongOnes();
-        dearest();
+        fullPatterns();
         Check.end();
     }
 
@@ -125,6 +125,7 @@ public final class MatchTest {
     private static void units() {
         Check.matches("\\0\\t\\n\\v\\f\\r", "", "\0\t\n\u000B\f\r", 0, "1 0,6");
         Check.matches("\\cA\\cz\\cZ\\x41\\xfF\\u0042\\uFfFf", "", "\u0001\u001A\u001AA\u00FFB\uFFFF", 0, "1 0,7");
+        Check.matches("\\x4A\\x6a\\xA9\\uaAfF\\u0009", "", "Jj\u00A9\uAAFF\t", 0, "1 0,5");
         Check.matches("\\*\\.\\\\\\/\\-\\\u00D7", "", "*.\\/-\u00D7", 0, "1 0,6");
         Check.matches("\uD800\uDC00", "", "\uD800\uDC00", 0, "1 0,2");
         Check.matches("^.$", "", "\uD800\uDC00", 0, "0");
@@ -192,7 +193,7 @@ public final class MatchTest {
     }
 
     private static void sets() {
-        for (int unit = 0; unit < 65536; unit += unit < 13000 || unit > 65200 ? 1 : 97) {
+        for (int unit = 0; unit < 65536; unit += unit < 13000 || unit > 65000 ? 1 : 97) {
             boolean digit = unit >= 48 && unit <= 57;
             boolean word = digit || unit >= 65 && unit <= 90 || unit >= 97 && unit <= 122 || unit == 95;
             boolean end = unit == 10 || unit == 13 || unit == 8232 || unit == 8233;
@@ -230,25 +231,30 @@ public final class MatchTest {
         Check.state("there is no pattern", () -> bare.match(0, 10000));
     }
 
-    /** Patterns that leave the most choices, or change groups the most, in all the fuel that there is. */
-    private static void dearest() {
+    /** As many of each kind as a pattern can hold, and many patterns on one object. */
+    private static void fullPatterns() {
         String a = Check.repeat("a", 600);
-        String[] patterns = {"(a*)*b", "(?:|){20000}", "(?:a|){9999}", "(?:(?!|)|(?=|)){9999}", "(?:a*)*?b",
-            within("(?:", Check.repeat("()", 20), "){9999}b", 1), within("(?:", Check.repeat("(|)", 20), "){9999}b", 1),
-            within("(?:", within("(", "a*", ")", 20), ")*", 20) + "b", within("(?:", "|", ")*?", 30) + "b",
-            within("(?!|", "", ")", 38) + "a*b", "(?:(?=(a*))\\1?){9999}b", "(?:" + within("(", "", ")", 20) + "){9999}b",
-            Check.repeat("a?", 100), Check.repeat("a*", 99) + "b", Check.repeat("(?=", 40) + Check.repeat(")", 40) + "(?:)*"};
-        for (String pattern : patterns) {
-            PatternDesk desk = Check.desk(pattern, "i", a);
-            for (int fuel : new int[] {1, 100, 9999, 10000}) {
-                int answer = desk.match(0, fuel);
-                Check.due(pattern + " is done or has taken all fuel", answer == 2 ? desk.steps() : fuel, fuel);
-                Check.due(pattern + " found", desk.find(0, fuel) == 2 ? desk.steps() : fuel, fuel);
+        Check.matches(Check.repeat("a?", 100), "", a, 3, "1 3,103");
+        Check.matches(Check.repeat("a+?", 66), "", a, 3, "1 3,69");
+        Check.matches(Check.repeat("(?=)", 50), "", a, 3, "1 3,3");
+        Check.matches(Check.repeat("|", 199) + "a", "", a, 3, "1 3,3");
+        Check.matches(Check.repeat("[]|", 66) + "a", "", a, 3, "1 3,4");
+        Check.matches("[" + Check.repeat("b", 197) + "a]", "", a, 3, "1 3,4");
+        Check.matches(Check.repeat("[a]", 66), "", a, 3, "1 3,69");
+        String[] patterns = {Check.repeat("a?", 100), Check.repeat("(?=)", 50), "[" + Check.repeat("b", 197) + "a]",
+            Check.repeat("(a)", 20)};
+        PatternDesk desk = new PatternDesk();
+        Check.tell(desk, Check.repeat("a", 120));
+        desk.text();
+        for (int i = 0; i < 9; i++) {
+            long ends = 0;
+            for (int kind = 0; kind < 4; kind++) {
+                Check.tell(desk, patterns[kind]);
+                desk.pattern(false, false);
+                Check.due("match of " + patterns[kind], desk.match(3, 10000), 1);
+                ends = ends * 1000 + desk.group(0, true);
             }
+            Check.due("the ends of all four", ends, 103L * 1000000000 + 3 * 1000000 + 4 * 1000 + 23);
         }
-    }
-
-    private static String within(String open, String inner, String close, int times) {
-        return Check.repeat(open, times) + inner + Check.repeat(close, times);
     }
 }

@@ -16,12 +16,14 @@ public final class SpecTest {
     private int rightOnes = 0;
     private int matched = 0;
     private int spent = 0;
+    private static volatile boolean ended = false;
 
     public static void main(String[] args) throws InterruptedException {
         // The closures of Spec stand as deep as a match has steps.
         Thread thread = new Thread(null, () -> new SpecTest().run(), "spec", 1L << 30);
         thread.start();
         thread.join();
+        Check.due("all was compared", ended ? 1 : 0, 1);
         Check.end();
     }
 
@@ -33,10 +35,12 @@ public final class SpecTest {
             }
             compare(desk, chancePattern(i % 4), chanceText());
         }
+        dearest();
         System.out.println(rightOnes + " right patterns, " + matched + " matches, " + spent + " spent");
         Check.due("there were enough right patterns", rightOnes > RUNS / 4 ? 1 : 0, 1);
         Check.due("there were enough matches", matched > RUNS / 10 ? 1 : 0, 1);
         Check.due("there were enough spent ones", spent > RUNS / 100 ? 1 : 0, 1);
+        ended = true;
     }
 
     private void compare(PatternDesk desk, String pattern, String text) {
@@ -69,9 +73,35 @@ public final class SpecTest {
 
     private void compareMatch(PatternDesk desk, Spec spec, String text, String what) {
         int from = random.nextInt(text.length() + 1);
-        boolean finding = random.nextBoolean();
         int[] fuels = {1 + random.nextInt(10), 1 + random.nextInt(60), 1000};
-        int fuel = fuels[random.nextInt(3)];
+        compareTry(desk, spec, text, what, from, fuels[random.nextInt(3)], random.nextBoolean());
+    }
+
+    /** Patterns that leave the most choices, or change groups the most, in all the fuel that there is. */
+    private void dearest() {
+        String text = Check.repeat("a", 600);
+        String[] patterns = {"(a*)*b", "(?:|){20000}", "(?:a|){9999}", "(?:(?!|)|(?=|)){9999}", "(?:a*)*?b",
+            within("(?:", Check.repeat("()", 20), "){9999}b", 1), within("(?:", Check.repeat("(|)", 20), "){9999}b", 1),
+            within("(?:", Check.repeat("()", 20), "){450}", 1), within("(?:", Check.repeat("(|)", 20), "){450}b?", 1),
+            within("(?:", within("(", "a*", ")", 20), ")*", 20) + "b", within("(?:", "|", ")*?", 30) + "b",
+            within("(?!|", "", ")", 38) + "a*b", "(?:(?=(a*))\\1?){9999}b", "(?:" + within("(", "", ")", 20) + "){9999}b",
+            "(?:" + Check.repeat("(|)", 20) + Check.repeat("(?:|)", 23) + "|){201}(?=a{99})b", Check.repeat("(a)?", 20) + "(?:a*)*b",
+            Check.repeat("a?", 100), Check.repeat("a*", 99) + "b", within("(?=", "", ")", 40) + "(?:)*", "(?:(a)|(b)|(?=(a))){600}.*$"};
+        for (String pattern : patterns) {
+            PatternDesk desk = Check.desk(pattern, "i", text);
+            Spec spec = new Spec(pattern, true, false);
+            for (int fuel : new int[] {100, 9999, 10000}) {
+                compareTry(desk, spec, text, pattern, 0, fuel, false);
+                compareTry(desk, spec, text, pattern, 100, fuel, true);
+            }
+        }
+    }
+
+    private static String within(String open, String inner, String close, int times) {
+        return Check.repeat(open, times) + inner + Check.repeat(close, times);
+    }
+
+    private void compareTry(PatternDesk desk, Spec spec, String text, String what, int from, int fuel, boolean finding) {
         String due;
         try {
             int[][] captures = spec.find(text, from, finding ? text.length() : from, fuel);
