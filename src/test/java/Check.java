@@ -6,20 +6,46 @@ final class Check {
 
     private static int wrong = 0;
     private static int asked = 0;
+    private static int sentences = 0;
+    private static int askedBefore = -1;
+    private static String sentence = "";
 
     interface Call {
         long run();
     }
 
+    interface Has {
+        boolean test(int unit);
+    }
+
     private Check() {
+    }
+
+    /** All that is asked from here on is about these words of the document; each must be asked about. */
+    static void sentence(String words) {
+        endSentence();
+        sentence = words;
+        sentences++;
+        askedBefore = asked;
+    }
+
+    private static void endSentence() {
+        if (askedBefore == asked) {
+            wrong++;
+            System.out.println("nothing was asked about: " + sentence);
+        }
     }
 
     static void due(String what, long got, long want) {
         asked++;
         if (got != want) {
-            wrong++;
-            System.out.println(what + " answered " + got + ", due is " + want);
+            tellWrong(what + " answered " + got + ", due is " + want);
         }
+    }
+
+    private static void tellWrong(String what) {
+        wrong++;
+        System.out.println(sentence.isEmpty() ? what : "\"" + sentence + "\": " + what);
     }
 
     static void argument(String what, Call call) {
@@ -42,7 +68,9 @@ final class Check {
     }
 
     static void end() {
-        System.out.println(wrong == 0 ? "all " + asked + " answers are as due" : wrong + " answers are not as due");
+        endSentence();
+        String about = sentences == 0 ? "" : " about " + sentences + " sentences";
+        System.out.println(wrong == 0 ? "all " + asked + " answers" + about + " are as due" : wrong + " answers are not as due");
         if (wrong != 0) {
             System.exit(1);
         }
@@ -115,6 +143,24 @@ final class Check {
         }
     }
 
+    /** Tries a pattern at each unit of 0 .. 65535, as many of them on one desk as 512 calls allow. */
+    static void takes(String pattern, String flags, Has has) {
+        int size = 380;
+        for (int from = 0; from < 65536; from += size) {
+            StringBuilder text = new StringBuilder();
+            for (int unit = from; unit < from + size && unit < 65536; unit++) {
+                text.append((char) unit);
+            }
+            PatternDesk desk = desk(pattern, flags, text.toString());
+            for (int at = 0; at < text.length(); at++) {
+                int got = desk.match(at, 10000);
+                int want = has.test(from + at) ? 1 : 0;
+                // The words are made only where they are told: there are millions of these answers.
+                due(got == want ? "" : shown(pattern) + "/" + flags + " on unit " + (from + at), got, want);
+            }
+        }
+    }
+
     static String result(PatternDesk desk, int answer) {
         if (answer != 1) {
             return Integer.toString(answer);
@@ -135,8 +181,7 @@ final class Check {
     static void same(String what, String got, String want) {
         asked++;
         if (!got.equals(want)) {
-            wrong++;
-            System.out.println(what + " answered " + got + ", due is " + want);
+            tellWrong(what + " answered " + got + ", due is " + want);
         }
     }
 
