@@ -24,6 +24,7 @@ public final class CallEdgesTest {
         findFuel();
         findAsMatch();
         groupPlaces();
+        groupsOfAll();
         groupNumbers();
         groupOrder();
         steps();
@@ -44,6 +45,15 @@ public final class CallEdgesTest {
             Check.due("group", desk.group(1, true), 1);
             Check.due("steps", desk.steps(), 3);
         }
+        Check.sentence("An object is used for at most 512 calls (all of them as dear as can be)");
+        PatternDesk dear = Check.desk("(?:(a)(a)|(a)(?=(a)))*b|(c)", "", Check.repeat("a", 599) + "c");
+        // 151 calls to tell the text, and some to tell the pattern.
+        for (int i = 0; i < 340; i++) {
+            Check.due("find that is spent", dear.find(0, 10000 - i % 2), 2);
+        }
+        Check.due("find", dear.find(599, 12), 1);
+        Check.due("begin of 5", dear.group(5, false), 599);
+        Check.due("begin of 1", dear.group(1, false), -1);
     }
 
     private static void newObject() {
@@ -291,6 +301,13 @@ public final class CallEdgesTest {
         Check.due("a match", desk.match(0, 3), 1);
         Check.due("spent", desk.match(0, 1), 2);
         Check.state("group behind a spent one", () -> desk.group(0, false));
+        PatternDesk choices = Check.desk("a*b|c", "", "aabd");
+        for (int fuel : new int[] {5, 99}) {
+            Check.due("a match or a spent one that leaves choices", choices.match(0, fuel), fuel == 5 ? 2 : 1);
+            Check.due("no match behind it", choices.match(3, 99), 0);
+            // An alternative, the quantifier, a and b; an alternative and c.
+            Check.due("nothing of the latest one is tried", choices.steps(), 6);
+        }
         Check.sentence("match: Tries the pattern at a place");
         for (int at = 0; at <= 5; at++) {
             Check.due("match at " + at, desk.match(at, 9), at == 0 || at == 3 ? 1 : 0);
@@ -445,6 +462,23 @@ public final class CallEdgesTest {
             Check.due("begin of " + k, other.group(k, false), -1);
             Check.due("end of " + k, other.group(k, true), -1);
         }
+    }
+
+    private static void groupsOfAll() {
+        Check.sentence("group: Where group k .. begins, or (end) the place behind it; -1 when it was not come to (all 20 of them)");
+        String text = "abcdefghijklmnopqrstuvwxyz";
+        PatternDesk desk = Check.desk(Check.repeat("(.)", 19) + "(?:(.)|$)", "", text);
+        for (int at = 0; at <= 7; at++) {
+            Check.due("match at " + at, desk.match(at, 99), 1);
+            Check.due("begin of all", desk.group(0, false), at);
+            Check.due("end of all", desk.group(0, true), Math.min(at + 20, 26));
+            for (int k = 1; k <= 20; k++) {
+                boolean come = at + k <= 26;
+                Check.due("begin of " + k, desk.group(k, false), come ? at + k - 1 : -1);
+                Check.due("end of " + k, desk.group(k, true), come ? at + k : -1);
+            }
+        }
+        Check.due("no match", desk.match(8, 99), 0);
     }
 
     private static void groupNumbers() {

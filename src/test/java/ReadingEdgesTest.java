@@ -8,6 +8,7 @@ public final class ReadingEdgesTest {
     public static void main(String[] args) {
         units();
         sizes();
+        fullPatterns();
         withoutAnnexB();
         alternatives();
         terms();
@@ -58,6 +59,33 @@ public final class ReadingEdgesTest {
         PatternDesk desk = new PatternDesk();
         Check.tell(desk, a);
         Check.state("a 601st unit", () -> desk.put('a', 1));
+    }
+
+    private static void fullPatterns() {
+        Check.sentence("THE PATTERN .. at most 200 (full of repetitions, looks ahead, members, classes, alternatives, groups, one after another)");
+        String[] patterns = {Check.repeat("a?", 100), Check.repeat("(?=a)", 40), Check.repeat("(?=)", 50), Check.repeat("(?!)|", 39) + "a",
+            "[" + Check.repeat("b", 197) + "a]", "[" + Check.repeat("b-c", 65) + "aaa]", Check.repeat("[]|", 66) + "aa",
+            Check.repeat("|", 200), Check.repeat("(a?)?", 20) + Check.repeat("a", 100), Check.repeat("(?:a)*", 33) + "b?",
+            Check.repeat("(?:", 40) + "a" + Check.repeat(")*", 39) + ")"};
+        int[] ends = {100, 0, 0, 1, 1, 1, 2, 0, 120, 150, 150};
+        for (int round = 0; round < 3; round++) {
+            PatternDesk desk = new PatternDesk();
+            Check.tell(desk, Check.repeat("a", 150));
+            desk.text();
+            for (int i = 0; i < patterns.length; i++) {
+                int which = round == 1 ? patterns.length - 1 - i : i;
+                // Telling a full pattern takes 50 of an object's 512 calls.
+                if (i == 7) {
+                    desk = new PatternDesk();
+                    Check.tell(desk, Check.repeat("a", 150));
+                    desk.text();
+                }
+                Check.tell(desk, patterns[which]);
+                desk.pattern(false, false);
+                Check.due("match of " + patterns[which], desk.match(0, 10000), 1);
+                Check.due("end of " + patterns[which], desk.group(0, true), ends[which]);
+            }
+        }
     }
 
     private static void withoutAnnexB() {
