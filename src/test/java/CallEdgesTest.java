@@ -247,14 +247,17 @@ public final class CallEdgesTest {
         Check.argument("200 units, and one is missing", () -> desk.pattern(false, false));
         Check.due("place", desk.place(), 200);
         Check.sentence("place: 200 when it was too long");
+        PatternDesk other = new PatternDesk();
         for (int length : new int[] {201, 202, 400, 600}) {
-            Check.tell(desk, Check.repeat(")", length));
-            Check.argument("pattern of " + length, () -> desk.pattern(false, false));
-            Check.due("place", desk.place(), 200);
+            Check.tell(other, Check.repeat(")", length));
+            Check.argument("pattern of " + length, () -> other.pattern(false, false));
+            Check.due("place", other.place(), 200);
         }
         Check.sentence("place: -1 when it was right");
-        Check.due("the empty pattern", desk.pattern(false, false), 0);
-        Check.due("place", desk.place(), -1);
+        for (PatternDesk one : new PatternDesk[] {desk, other}) {
+            Check.due("the empty pattern", one.pattern(false, false), 0);
+            Check.due("place", one.place(), -1);
+        }
     }
 
     private static void textUsedUp() {

@@ -203,10 +203,11 @@ public final class ReadingEdgesTest {
         Check.sentence("ATOM: a unit that is none of ^ $ \\ . * + ? ( ) [ ] { } |");
         PatternDesk desk = null;
         for (int unit = 0; unit < 65536; unit++) {
+            // Six calls a unit.
+            if (unit % 80 == 0) {
+                desk = new PatternDesk();
+            }
             if (SIGNS.indexOf(unit) < 0) {
-                if (desk == null || unit % 100 == 0) {
-                    desk = new PatternDesk();
-                }
                 Check.due("put", desk.put(unit, 1), 1);
                 Check.due("pattern of unit " + unit, desk.pattern(false, false), 0);
                 desk.put((long) unit << 16 | unit ^ 1, 2);
@@ -349,11 +350,12 @@ public final class ReadingEdgesTest {
         Check.sentence("a unit that is none that a name can have .. and below 256: itself; one above 255 can't stand there");
         PatternDesk desk = null;
         for (int unit = 0; unit < 65536; unit++) {
+            // Fourteen calls a unit.
+            if (unit % 36 == 0) {
+                desk = new PatternDesk();
+            }
             if (LETTERS.indexOf(unit) >= 0 || DIGITS.indexOf(unit) >= 0) {
                 continue;
-            }
-            if (desk == null || unit % 50 == 0) {
-                desk = new PatternDesk();
             }
             boolean right = unit < 256 && !isNamePart(unit);
             escaped(desk, "\\" + (char) unit, right ? -1 : 1, unit);

@@ -1,18 +1,8 @@
-import java.util.Random;
-
 /** Promises 3, 4 and 6 to 9 on patterns by chance (always the same ones), against the standard's own words in Spec. */
 public final class SpecTest {
     private static final int RUNS = 60000;
-    private static final String SIGNS = "()[]{}*+?|^$.\\ab-,12dwxuc=!:0(()\\[-]{,}";
-    private static final String[] PIECES = {"(", "(?:", "(?=", "(?!", ")", "[", "]", "[^", "\\d", "\\W", "\\1", "\\2",
-        "{2}", "{1,2}", "{0,}", "{2,1}", "*", "+", "?", "*?", "a", "b", "|", ".", "^", "$", "\\b", "a-b", "\\x61", "\\cA",
-        "\\0", "\\u0062", "\u00E0", "\u00DF", "\\", "-", "0"};
-    private static final String[] TEXT = {"a", "a", "a", "b", "b", "c", "A", "B", "1", " ", "\n", "\r", "\0", "_", "\u00E0",
-        "\u00C0", "\u00FF", "\u0178", "\u2028"};
-    private static final String[] ATOMS = {"a", "a", "b", "b", "c", "A", ".", "\\d", "\\w", "\\W", "\\s", "\\S", "\\D", "[ab]",
-        "[^a]", "[a-c]", "[B-a]", "[\\W1]", "[^\\s]", "[]", "[^]", "\\1", "\\2", "\\3", "\u00E0", "[\u00C0-\u00FF]", "\\0", "[\\d-]"};
 
-    private final Random random = new Random(15102);
+    private final Chance chance = new Chance(15102);
     private int rightOnes = 0;
     private int matched = 0;
     private int spent = 0;
@@ -30,10 +20,11 @@ public final class SpecTest {
     private void run() {
         PatternDesk desk = new PatternDesk();
         for (int i = 0; i < RUNS; i++) {
-            if (i % 20 == 0) {
+            // Four patterns with all their groups take an object's 512 calls.
+            if (i % 4 == 0) {
                 desk = new PatternDesk();
             }
-            compare(desk, chancePattern(i % 4), chanceText());
+            compare(desk, chance.pattern(i % 4), chance.text());
         }
         dearest();
         System.out.println(rightOnes + " right patterns, " + matched + " matches, " + spent + " spent");
@@ -44,8 +35,8 @@ public final class SpecTest {
     }
 
     private void compare(PatternDesk desk, String pattern, String text) {
-        boolean ignoring = random.nextBoolean();
-        boolean lines = random.nextBoolean();
+        boolean ignoring = chance.either();
+        boolean lines = chance.either();
         String what = Check.shown(pattern) + (ignoring ? "i" : "") + (lines ? "m" : "") + " on " + Check.shown(text);
         Spec spec = null;
         int place = -1;
@@ -72,9 +63,9 @@ public final class SpecTest {
     }
 
     private void compareMatch(PatternDesk desk, Spec spec, String text, String what) {
-        int from = random.nextInt(text.length() + 1);
-        int[] fuels = {1 + random.nextInt(10), 1 + random.nextInt(60), 1000};
-        compareTry(desk, spec, text, what, from, fuels[random.nextInt(3)], random.nextBoolean());
+        int from = chance.below(text.length() + 1);
+        int[] fuels = {1 + chance.below(10), 1 + chance.below(60), 1000};
+        compareTry(desk, spec, text, what, from, fuels[chance.below(3)], chance.either());
     }
 
     /** Patterns that leave the most choices, or change groups the most, in all the fuel that there is. */
@@ -88,9 +79,9 @@ public final class SpecTest {
             "(?:" + Check.repeat("(|)", 20) + Check.repeat("(?:|)", 23) + "|){201}(?=a{99})b", Check.repeat("(a)?", 20) + "(?:a*)*b",
             Check.repeat("a?", 100), Check.repeat("a*", 99) + "b", within("(?=", "", ")", 40) + "(?:)*", "(?:(a)|(b)|(?=(a))){600}.*$"};
         for (String pattern : patterns) {
-            PatternDesk desk = Check.desk(pattern, "i", text);
             Spec spec = new Spec(pattern, true, false);
             for (int fuel : new int[] {100, 9999, 10000}) {
+                PatternDesk desk = Check.desk(pattern, "i", text);
                 compareTry(desk, spec, text, pattern, 0, fuel, false);
                 compareTry(desk, spec, text, pattern, 100, fuel, true);
             }
@@ -122,62 +113,5 @@ public final class SpecTest {
             all.append(' ').append(capture == null ? "-" : capture[0] + "," + capture[1]);
         }
         return all.toString();
-    }
-
-    private String chanceText() {
-        StringBuilder all = new StringBuilder();
-        for (int left = random.nextInt(12); left > 0; left--) {
-            all.append(TEXT[random.nextInt(TEXT.length)]);
-        }
-        return all.toString();
-    }
-
-    private String chancePattern(int way) {
-        StringBuilder all = new StringBuilder();
-        if (way == 0) {
-            for (int left = random.nextInt(10); left > 0; left--) {
-                all.append(SIGNS.charAt(random.nextInt(SIGNS.length())));
-            }
-        } else if (way == 1) {
-            for (int left = random.nextInt(10); left > 0; left--) {
-                all.append(PIECES[random.nextInt(PIECES.length)]);
-            }
-        } else {
-            disjunction(all, 3);
-            if (way == 2 && all.length() > 0 && random.nextInt(3) == 0) {
-                all.deleteCharAt(random.nextInt(all.length()));
-            }
-        }
-        return all.length() > 200 ? "" : all.toString();
-    }
-
-    private void disjunction(StringBuilder all, int depth) {
-        do {
-            for (int left = random.nextInt(4); left > 0; left--) {
-                term(all, depth);
-            }
-        } while (random.nextInt(3) == 0 && all.append('|') != null);
-    }
-
-    private void term(StringBuilder all, int depth) {
-        int kind = random.nextInt(12);
-        if (kind == 0) {
-            all.append(new String[] {"^", "$", "\\b", "\\B"}[random.nextInt(4)]);
-            return;
-        }
-        if (kind <= 4 && depth > 0) {
-            all.append(new String[] {"(?=", "(?!", "(?:", "("}[kind - 1]);
-            disjunction(all, depth - 1);
-            all.append(')');
-            if (kind <= 2) {
-                return;
-            }
-        } else {
-            all.append(ATOMS[random.nextInt(ATOMS.length)]);
-        }
-        if (random.nextInt(2) == 0) {
-            all.append(new String[] {"*", "+", "?", "{2}", "{0,2}", "{1,}", "{0}", "{1,3}"}[random.nextInt(8)]);
-            all.append(random.nextInt(3) == 0 ? "?" : "");
-        }
     }
 }
